@@ -1,5 +1,3 @@
-import java.util.function.Function;
-
 /** Runs of calls, drawn by a counter of its own, on the program and on the model of the document: all answers agree. */
 public final class ModelTest {
     private static final int RUNS = 400;
@@ -11,8 +9,8 @@ public final class ModelTest {
     private int run = 0;
     private int made = 0;
     private int bellCount = 6;
-    private Desk program;
-    private Desk model;
+    private RungTouches program;
+    private ModelDesk model;
 
     public static void main(String[] args) {
         ModelTest test = new ModelTest();
@@ -27,7 +25,7 @@ public final class ModelTest {
         seed = number * 7919L;
         made = 0;
         bellCount = 6;
-        program = new ProgramDesk();
+        program = new RungTouches();
         model = new ModelDesk();
         int due = 20 + below(120);
         setUp();
@@ -59,27 +57,15 @@ public final class ModelTest {
         return low + below(high - low + 1);
     }
 
-    private void ask(String call, Function<Desk, Object> f) {
+    private void ask(String name, int... arguments) {
         made++;
-        String due = Answer.of(() -> f.apply(model));
-        check.same("run " + run + ", call " + made + ": " + call, Answer.of(() -> f.apply(program)), due);
+        Asked call = new Asked(name, arguments);
+        check.same("run " + run + ", call " + made + ": " + call, call.of(program), call.of(model));
     }
 
     private int askBells(int n) {
-        ask("bells(" + n + ")", d -> d.bells(n));
+        ask("bells", n);
         return n >= 4 && n <= 6 ? n : bellCount;
-    }
-
-    private void askNotation(int i, int mask) {
-        ask("notation(" + i + ", " + mask + ")", d -> d.notation(i, mask));
-    }
-
-    private void askDefine(int len) {
-        ask("define(" + len + ")", d -> d.define(len));
-    }
-
-    private void askCallNotation(int kind, int mask) {
-        ask("callNotation(" + kind + ", " + mask + ")", d -> d.callNotation(kind, mask));
     }
 
     private int anyMask() {
@@ -89,15 +75,11 @@ public final class ModelTest {
     private int goodMask() {
         for (int tries = 0; tries < 200; tries++) {
             int mask = below(1 << bellCount);
-            if (isGood(mask)) {
+            if (model.good(mask)) {
                 return mask;
             }
         }
         return (1 << bellCount) - 1;
-    }
-
-    private boolean isGood(int mask) {
-        return new ModelDeskOf(bellCount).takes(mask);
     }
 
     private void setUp() {
@@ -111,10 +93,10 @@ public final class ModelTest {
             setUpShort();
         }
         if (chance(85)) {
-            askCallNotation(1, chance(30) ? 9 : goodMask());
+            ask("callNotation", 1, chance(30) ? 9 : goodMask());
         }
         if (chance(75)) {
-            askCallNotation(2, chance(30) ? 15 : goodMask());
+            ask("callNotation", 2, chance(30) ? 15 : goodMask());
         }
     }
 
@@ -123,10 +105,10 @@ public final class ModelTest {
         int ends = bellCount == 5 ? 1 : 1 | 1 << (bellCount - 1);
         int len = 2 * bellCount;
         for (int i = 0; i < len; i++) {
-            askNotation(i, i % 2 == 0 ? crossing : ends);
+            ask("notation", i, i % 2 == 0 ? crossing : ends);
         }
-        askNotation(len - 1, bellCount == 5 ? 7 : 3);
-        askDefine(len);
+        ask("notation", len - 1, bellCount == 5 ? 7 : 3);
+        ask("define", len);
     }
 
     /** The same masks back again bring the treble home if the one in the middle leaves it in its place. */
@@ -134,25 +116,25 @@ public final class ModelTest {
         int half = 1 + below(11);
         for (int i = 0; i < half; i++) {
             int mask = goodMask();
-            askNotation(i, mask);
-            askNotation(2 * half - i, mask);
+            ask("notation", i, mask);
+            ask("notation", 2 * half - i, mask);
         }
-        askNotation(half, goodMask());
+        ask("notation", half, goodMask());
         int last = 2 * half + 1;
         if (last < 24) {
-            askNotation(last, chance(50) ? 3 + (bellCount == 5 ? 4 : 0) : goodMask());
-            askDefine(last + 1);
+            ask("notation", last, chance(50) ? 3 + (bellCount == 5 ? 4 : 0) : goodMask());
+            ask("define", last + 1);
         }
-        askDefine(last);
+        ask("define", last);
     }
 
     private void setUpShort() {
         int len = 1 + below(5);
         for (int tries = 0; tries < 6; tries++) {
             for (int i = 0; i < len; i++) {
-                askNotation(i, goodMask());
+                ask("notation", i, goodMask());
             }
-            askDefine(len);
+            ask("define", len);
         }
     }
 
@@ -176,12 +158,11 @@ public final class ModelTest {
         int kind = near(0, 2);
         int k = near(0, Math.max(0, model.calls() - 1));
         if (which < 6) {
-            ask("call(" + kind + ")", d -> d.call(kind));
+            ask("call", kind);
         } else if (which < 8) {
-            ask("change(" + k + ", " + kind + ")", d -> d.change(k, kind));
+            ask("change", k, kind);
         } else {
-            int kept = near(model.calls() / 2, model.calls());
-            ask("keep(" + kept + ")", d -> d.keep(kept));
+            ask("keep", near(model.calls() / 2, model.calls()));
         }
         if (chance(4)) {
             fillTouch();
@@ -190,8 +171,7 @@ public final class ModelTest {
 
     private void fillTouch() {
         for (int k = 0; k < 31; k++) {
-            int kind = chance(70) ? 0 : below(3);
-            ask("call(" + kind + ")", d -> d.call(kind));
+            ask("call", chance(70) ? 0 : below(3));
         }
     }
 
@@ -202,13 +182,13 @@ public final class ModelTest {
         int a = near(0, ranks - 1);
         int b = near(0, ranks - 1);
         switch (below(7)) {
-            case 0 -> ask("prove()", d -> d.prove());
-            case 1 -> ask("rows()", d -> d.rows());
-            case 2 -> ask("bell(" + i + ", " + place + ")", d -> d.bell(i, place));
-            case 3 -> ask("rank(" + i + ")", d -> d.rank(i));
-            case 4 -> ask("unrank(" + a + ", " + place + ")", d -> d.unrank(a, place));
-            case 5 -> ask("course()", d -> d.course());
-            default -> ask("falseLeads(" + a + ", " + b + ")", d -> d.falseLeads(a, b));
+            case 0 -> ask("prove");
+            case 1 -> ask("rows");
+            case 2 -> ask("bell", i, place);
+            case 3 -> ask("rank", i);
+            case 4 -> ask("unrank", a, place);
+            case 5 -> ask("course");
+            default -> ask("falseLeads", a, b);
         }
     }
 
@@ -217,13 +197,15 @@ public final class ModelTest {
         int most = chance(40) ? near(1, 720) : near(1, 60);
         int least = chance(50) ? 1 + below(8) : near(1, Math.max(1, Math.min(most, 720)));
         if (chance(50)) {
-            ask("search(" + least + ", " + most + ", " + budget + ")", d -> d.search(least, most, budget));
+            ask("search", least, most, budget);
         } else {
-            ask("count(" + most + ", " + budget + ")", d -> d.count(most, budget));
+            ask("count", most, budget);
         }
-        ask("looked()", d -> d.looked());
-        ask("calls()", d -> d.calls());
-        ask("prove()", d -> d.prove());
+        ask("looked");
+        ask("prove");
+        for (int k = 0; k <= model.calls(); k++) {
+            ask("callAt", k);
+        }
     }
 
     private void drawMusic() {
@@ -231,16 +213,16 @@ public final class ModelTest {
         int place = near(1, bellCount);
         int bell = near(0, bellCount);
         if (chance(40)) {
-            ask("pattern(" + slot + ", " + place + ", " + bell + ")", d -> d.pattern(slot, place, bell));
+            ask("pattern", slot, place, bell);
         }
-        ask("music(" + slot + ")", d -> d.music(slot));
+        ask("music", slot);
     }
 
     private void drawSetting() {
         switch (below(8)) {
-            case 0 -> askNotation(near(0, 23), anyMask());
-            case 1 -> askDefine(near(1, 24));
-            case 2, 3, 4 -> askCallNotation(near(1, 2), chance(70) ? goodMask() : anyMask());
+            case 0 -> ask("notation", near(0, 23), anyMask());
+            case 1 -> ask("define", near(1, 24));
+            case 2, 3, 4 -> ask("callNotation", near(1, 2), chance(70) ? goodMask() : anyMask());
             case 5 -> bellCount = askBells(near(3, 7));
             default -> setUp();
         }
@@ -248,34 +230,18 @@ public final class ModelTest {
 
     /** All that can be seen of the state, so that a call that ought to change nothing is found out. */
     private void lookAround() {
-        ask("calls()", d -> d.calls());
-        ask("rows()", d -> d.rows());
-        ask("looked()", d -> d.looked());
+        ask("calls");
+        ask("rows");
+        ask("looked");
         for (int k = -1; k <= 30; k++) {
-            int call = k;
-            ask("callAt(" + call + ")", d -> d.callAt(call));
+            ask("callAt", k);
         }
         for (int slot = -1; slot <= 4; slot++) {
-            int music = slot;
-            ask("music(" + music + ")", d -> d.music(music));
+            ask("music", slot);
         }
         int rows = model.rows();
         for (int i = -1; i <= rows + 1; i += 1 + below(12)) {
-            int number = i;
-            ask("rank(" + number + ")", d -> d.rank(number));
-        }
-    }
-
-    /** Asks a model of its own whether a mask is good. */
-    private static final class ModelDeskOf {
-        private final ModelDesk desk = new ModelDesk();
-
-        ModelDeskOf(int bells) {
-            desk.bells(bells);
-        }
-
-        boolean takes(int mask) {
-            return desk.notation(0, mask);
+            ask("rank", i);
         }
     }
 }

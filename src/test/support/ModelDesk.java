@@ -6,7 +6,7 @@ import java.util.List;
 import java.util.Set;
 
 /** The document's words put into code as literally as can be, without care for speed or room. */
-public final class ModelDesk implements Desk {
+public final class ModelDesk {
     private int n;
     private Integer[] masks;
     private Integer[] callMasks;
@@ -25,7 +25,6 @@ public final class ModelDesk implements Desk {
         bells(6);
     }
 
-    @Override
     public boolean bells(int bells) {
         if (bells < 4 || bells > 6) {
             return false;
@@ -56,7 +55,7 @@ public final class ModelDesk implements Desk {
         }
     }
 
-    private boolean good(int mask) {
+    public boolean good(int mask) {
         if (mask < 0 || mask >= Math.pow(2, n)) {
             return false;
         }
@@ -131,7 +130,6 @@ public final class ModelDesk implements Desk {
         return !calls.isEmpty() && rows.get(rows.size() - 1).equals(rounds()) && firstRepeated(rows) == 0;
     }
 
-    @Override
     public boolean notation(int i, int mask) {
         if (method != null || i < 0 || i > 23 || !good(mask)) {
             return false;
@@ -140,7 +138,6 @@ public final class ModelDesk implements Desk {
         return true;
     }
 
-    @Override
     public boolean callNotation(int kind, int mask) {
         if (kind < 1 || kind > 2 || !good(mask) || touch.contains(kind)) {
             return false;
@@ -149,7 +146,6 @@ public final class ModelDesk implements Desk {
         return true;
     }
 
-    @Override
     public int define(int len) {
         if (method != null) {
             return 3;
@@ -178,7 +174,6 @@ public final class ModelDesk implements Desk {
         }
     }
 
-    @Override
     public int call(int kind) {
         needMethod();
         if (!hasCall(kind)) {
@@ -191,7 +186,6 @@ public final class ModelDesk implements Desk {
         return touch.size();
     }
 
-    @Override
     public boolean change(int k, int kind) {
         if (k < 0 || k >= touch.size() || !hasCall(kind)) {
             return false;
@@ -200,7 +194,6 @@ public final class ModelDesk implements Desk {
         return true;
     }
 
-    @Override
     public boolean keep(int k) {
         if (k < 0 || touch.size() < k) {
             return false;
@@ -209,17 +202,14 @@ public final class ModelDesk implements Desk {
         return true;
     }
 
-    @Override
     public int calls() {
         return touch.size();
     }
 
-    @Override
     public int callAt(int k) {
         return k >= 0 && k < touch.size() ? touch.get(k) : -1;
     }
 
-    @Override
     public int prove() {
         if (touch.isEmpty() || isTrue(touch)) {
             return 0;
@@ -228,27 +218,22 @@ public final class ModelDesk implements Desk {
         return repeated > 0 ? repeated : -1;
     }
 
-    @Override
     public int rows() {
         return rowsOf(touch).size() - 1;
     }
 
-    @Override
     public int bell(int i, int place) {
         return i < 0 || i > rows() || place < 1 || place > n ? -1 : rowsOf(touch).get(i).get(place - 1);
     }
 
-    @Override
     public int rank(int i) {
         return i < 0 || i > rows() ? -1 : allRows.indexOf(rowsOf(touch).get(i));
     }
 
-    @Override
     public int unrank(int rank, int place) {
         return rank < 0 || rank >= allRows.size() || place < 1 || place > n ? -1 : allRows.get(rank).get(place - 1);
     }
 
-    @Override
     public int course() {
         needMethod();
         List<Integer> row = rounds();
@@ -260,7 +245,6 @@ public final class ModelDesk implements Desk {
         return leads;
     }
 
-    @Override
     public boolean falseLeads(int a, int b) {
         needMethod();
         if (a < 0 || b < 0 || a >= allRows.size() || b >= allRows.size()) {
@@ -314,7 +298,6 @@ public final class ModelDesk implements Desk {
         }
     }
 
-    @Override
     public int search(int least, int most, int budget) {
         needMethod();
         needLimits(least, most, budget);
@@ -326,7 +309,6 @@ public final class ModelDesk implements Desk {
         return spent ? 2 : 0;
     }
 
-    @Override
     public int count(int rows, int budget) {
         needMethod();
         needLimits(rows, rows, budget);
@@ -334,12 +316,10 @@ public final class ModelDesk implements Desk {
         return spent ? -1 : trueLists;
     }
 
-    @Override
     public int looked() {
         return looked;
     }
 
-    @Override
     public boolean pattern(int slot, int place, int bell) {
         if (slot < 0 || slot > 3 || place < 1 || place > n || bell < 0 || bell > n) {
             return false;
@@ -348,7 +328,6 @@ public final class ModelDesk implements Desk {
         return true;
     }
 
-    @Override
     public int music(int slot) {
         if (slot < 0 || slot > 3) {
             return -1;
