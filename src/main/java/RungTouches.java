@@ -307,7 +307,6 @@ public final class RungTouches {
 
         void resize(int bellCount) {
             size = bellCount;
-            becomeRank(ROUNDS);
         }
 
         int length() {

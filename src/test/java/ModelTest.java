@@ -84,6 +84,9 @@ public final class ModelTest {
 
     private void setUp() {
         bellCount = chance(90) ? askBells(4 + below(3)) : bellCount;
+        for (int i = 0; i < 24 && chance(70); i++) {
+            ask("notation", i, goodMask());
+        }
         int way = below(4);
         if (way == 0) {
             setUpPlainBob();

@@ -18,6 +18,7 @@ public final class PromisesTest {
         test.newObject();
         test.bells();
         test.bellsForgets();
+        test.bellsClearsPatterns();
         test.notation();
         test.goodMasks();
         test.callNotation();
@@ -35,6 +36,7 @@ public final class PromisesTest {
         test.unrank();
         test.course();
         test.falseLeads();
+        test.masksBehindTheMethod();
         test.search();
         test.searchOrder();
         test.searchBudget();
@@ -170,6 +172,25 @@ public final class PromisesTest {
         for (int slot = 0; slot < 4; slot++) {
             due(1, "music", slot);
         }
+    }
+
+    private void bellsClearsPatterns() {
+        begin("2, bells clears patterns");
+        for (int slot = 0; slot < 4; slot++) {
+            for (int place = 1; place <= 6; place++) {
+                due(true, "pattern", slot, place, 7 - place);
+                method(6, 63);
+                calls(0);
+                due(1, "music", slot);
+            }
+        }
+        due(true, "pattern", 0, 6, 5);
+        method(4, 15);
+        calls(0);
+        due(1, "music", 0);
+        method(6, 63);
+        calls(0);
+        due(1, "music", 0);
     }
 
     private void notation() {
@@ -576,6 +597,20 @@ public final class PromisesTest {
         touchIs(0, 0);
     }
 
+    private void masksBehindTheMethod() {
+        begin("masks behind the method do not count");
+        give(4, 15, 3);
+        due(0, "define", 1);
+        calls(0);
+        due(1, "rows");
+        due(0, "rank", 1);
+        due(1, "course");
+        due(false, "falseLeads", 0, 1);
+        due(false, "falseLeads", 1, 0);
+        due(1, "count", 1, 1);
+        due(0, "prove");
+    }
+
     private void search() {
         begin("18, search");
         plainBob4();
@@ -665,6 +700,12 @@ public final class PromisesTest {
         due(-1, "count", 4, 20);
         due(-1, "count", 1, 1);
         touchIs(2, 1);
+        due(1, "search", 4, 4, 2000);
+        touchIs(1, 2, 1, 2);
+        due(2, "count", 4, 2000);
+        due(true, "falseLeads", 3, 3);
+        due(2, "count", 4, 2000);
+        touchIs(1, 2, 1, 2);
         method(4, 15, 3, 15);
         due(0, "count", 2, 1);
         due(0, "looked");
