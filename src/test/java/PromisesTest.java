@@ -1,17 +1,8 @@
 /** The promises of the document one by one: ordinary inputs, the edges that it names, and wrong inputs. */
-public final class PromisesTest {
-    private static final String STATE = "throws.IllegalStateException";
-    private static final String ARGUMENT = "throws.IllegalArgumentException";
-    private static final String UNSUPPORTED = "throws.UnsupportedOperationException";
-    private static final int FAR = Integer.MAX_VALUE;
-    private static final int FAR_BELOW = Integer.MIN_VALUE;
-
-    private static final int[] PLAIN_BOB_4 = {0, 9, 0, 9, 0, 9, 0, 3};
-    private static final int[] PLAIN_BOB_6 = {0, 33, 0, 33, 0, 33, 0, 33, 0, 33, 0, 3};
-
-    private final Check check = new Check("PromisesTest");
-    private RungTouches desk;
-    private String part;
+public final class PromisesTest extends DeskTest {
+    private PromisesTest() {
+        super("PromisesTest");
+    }
 
     public static void main(String[] args) {
         PromisesTest test = new PromisesTest();
@@ -47,68 +38,11 @@ public final class PromisesTest {
         test.pattern();
         test.music();
         test.refusedChangesNothing();
-        test.check.done();
-    }
-
-    private void begin(String name) {
-        part = name;
-        desk = new RungTouches();
-    }
-
-    private void due(Object answer, String name, int... arguments) {
-        Asked call = new Asked(name, arguments);
-        check.same(part + ": " + call, call.of(desk), String.valueOf(answer));
-    }
-
-    private void give(int bells, int... masks) {
-        due(true, "bells", bells);
-        for (int i = 0; i < masks.length; i++) {
-            due(true, "notation", i, masks[i]);
-        }
-    }
-
-    private void method(int bells, int... masks) {
-        give(bells, masks);
-        due(0, "define", masks.length);
-    }
-
-    private void plainBob4() {
-        method(4, PLAIN_BOB_4);
-        due(true, "callNotation", 1, 9);
-        due(true, "callNotation", 2, 15);
-    }
-
-    /** With no swap in the method, the touch's row is moved by calls alone: a bob crosses, a single swaps 3 and 4. */
-    private void stillMethod() {
-        method(4, 15);
-        due(true, "callNotation", 1, 0);
-        due(true, "callNotation", 2, 3);
-    }
-
-    private void calls(int... kinds) {
-        due(true, "keep", 0);
-        for (int k = 0; k < kinds.length; k++) {
-            due(k + 1, "call", kinds[k]);
-        }
-    }
-
-    private void touchIs(int... kinds) {
-        due(kinds.length, "calls");
-        for (int k = 0; k < kinds.length; k++) {
-            due(kinds[k], "callAt", k);
-        }
-    }
-
-    private void rowIs(int i, int... row) {
-        for (int place = 1; place <= row.length; place++) {
-            due(row[place - 1], "bell", i, place);
-        }
-        due(-1, "bell", i, row.length + 1);
+        test.done();
     }
 
     private void newObject() {
         begin("1, a new object");
-        check.same("NONE", RungTouches.NONE, -1);
         rowIs(0, 1, 2, 3, 4, 5, 6);
         due(0, "rank", 0);
         due(6, "unrank", 719, 1);
@@ -216,7 +150,6 @@ public final class PromisesTest {
     }
 
     private void goodMasks() {
-        begin("3, good masks");
         int[] good4 = {0, 3, 9, 12, 15};
         int[] good5 = {1, 4, 16, 7, 19, 25, 28, 31};
         int[] good6 = {0, 3, 9, 12, 15, 33, 36, 39, 48, 51, 57, 60, 63};
@@ -226,6 +159,7 @@ public final class PromisesTest {
     }
 
     private void onlyTheseAreGood(int bells, int[] good) {
+        begin("3, good masks of " + bells + " bells");
         due(true, "bells", bells);
         for (int mask = -70; mask < 140; mask++) {
             boolean isGood = false;
